@@ -487,7 +487,7 @@ public final class SplaySequence {
         }
 
         int lowest() {
-            int lowest = Integer.MAX_VALUE;
+            int lowest = root == null ? 0 : root.value;
             Node node = root;
             for (int more = count(); more > 0 && node != null; more--) {
                 lowest = Math.min(lowest, node.value);

@@ -28,6 +28,7 @@ public final class PromiseTest {
         move();
         moveWrong();
         counts();
+        countsOfEachCall();
         potential();
         sizes();
         root();
@@ -342,6 +343,9 @@ public final class PromiseTest {
         CHECKS.failsState(10, "cut(0, 0) with a clipboard", x, y -> y.cut(0, 0));
         CHECKS.failsPlace(10, "cut(2, 4) of 3 with a clipboard", x, y -> y.cut(2, 4));
         CHECKS.isText(10, "the row by way of the tree", Checks.treeRow(x), "0 3 4");
+        SplaySequence w = chain(5);
+        w.cut(4, 5);
+        CHECKS.failsState(10, "cut(0, 1) with one value in the clipboard", w, y -> y.cut(0, 1));
         SplaySequence z = chain(5);
         CHECKS.failsPlace(10, "cut(-1, 1)", z, y -> y.cut(-1, 1));
         CHECKS.failsPlace(10, "cut(2, 1)", z, y -> y.cut(2, 1));
@@ -486,6 +490,7 @@ public final class PromiseTest {
         CHECKS.is(14, "move(1, 2)", z.move(1, 2), 2);
         CHECKS.isText(14, "steps/rotations", z.lastSteps() + "/" + z.lastRotations(), "2/4");
         CHECKS.isText(14, "the tree", Checks.shape(z), "(((.0.)1.)2.)");
+        CHECKS.is(14, "clipped() behind move", z.clipped(), 0);
     }
 
     private static void moveWrong() {
@@ -531,6 +536,24 @@ public final class PromiseTest {
         CHECKS.isText(16, "counts behind a single step", counted(x), "1/1 4 4");
         x.reverse(2, 2);
         CHECKS.isText(15, "counts behind an empty range", counted(x), "0/0 4 4");
+    }
+
+    /** Each call of the first part begins its count anew, here with nothing to splay or with a root. */
+    private static void countsOfEachCall() {
+        Checks.Call[] calls = {
+            x -> x.insert(0, 1), x -> x.remove(x.root()), x -> x.get(x.root()), x -> x.set(x.root(), 1),
+            x -> x.reverse(0, 3), x -> x.raise(0, 3, 1), x -> x.sum(0, 3), x -> x.least(0, 3), x -> x.cut(0, 3),
+            x -> x.paste(0), x -> x.point(0, x.root()), x -> x.follow(1), x -> x.move(0, 0),
+        };
+        for (int number = 0; number < calls.length; number++) {
+            SplaySequence x = chain(3);
+            x.point(0, 0);
+            CHECKS.isText(15, "counts ahead of call " + number, counted(x), "1/2 1 1");
+            calls[number].answer(x);
+            CHECKS.is(15, "lastSteps() of call " + number, x.lastSteps(), 0);
+            CHECKS.is(16, "lastRotations() of call " + number, x.lastRotations(), 0);
+            CHECKS.is(17, "steps() behind call " + number, x.steps(), 1);
+        }
     }
 
     private static String counted(SplaySequence x) {
@@ -655,6 +678,26 @@ public final class PromiseTest {
         x.set(0, 6);
         CHECKS.isText(28, "the plain row behind insert, remove, set", Checks.plainRow(x), "6 -5 13 10");
         CHECKS.failsPlace(28, "plain(4) of 4 again", x, y -> y.plain(4));
+        plainOfFullRow();
+    }
+
+    private static void plainOfFullRow() {
+        SplaySequence x = chain(60);
+        x.cut(20, 40);
+        x.paste(40);
+        CHECKS.is(28, "the last of 60 behind paste", x.plain(59), 39);
+        CHECKS.is(28, "the first one that moved ahead", x.plain(20), 40);
+        for (int time = 0; time < 70; time++) {
+            x.remove(0);
+            x.insert(59, 100 + time);
+        }
+        CHECKS.is(28, "the first of 60 behind 70 changes", x.plain(0), 110);
+        CHECKS.is(28, "the last of 60 behind 70 changes", x.plain(59), 169);
+        x.cut(0, 60);
+        CHECKS.failsPlace(28, "plain(0) with all in the clipboard", x, y -> y.plain(0));
+        x.paste(0);
+        x.reverse(0, 60);
+        CHECKS.is(28, "the last of 60 turned round", x.plain(59), 110);
     }
 
     private static void plainSum() {
