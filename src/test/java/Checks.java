@@ -88,7 +88,8 @@ final class Checks {
 
     static String plainRow(SplaySequence x) {
         StringBuilder text = new StringBuilder();
-        for (int at = 0; at < x.size(); at++) {
+        int size = x.size();
+        for (int at = 0; at < size; at++) {
             text.append(at == 0 ? "" : " ").append(x.plain(at));
         }
         return text.toString();
@@ -97,7 +98,8 @@ final class Checks {
     /** The values by way of the tree. It splays. */
     static String treeRow(SplaySequence x) {
         StringBuilder text = new StringBuilder();
-        for (int at = 0; at < x.size(); at++) {
+        int size = x.size();
+        for (int at = 0; at < size; at++) {
             text.append(at == 0 ? "" : " ").append(x.get(at));
         }
         return text.toString();

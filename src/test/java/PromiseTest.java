@@ -40,20 +40,11 @@ public final class PromiseTest {
         CHECKS.end("PromiseTest");
     }
 
-    /** Values 0, 1 .. n - 1, each inserted behind the one before: a tree in which each node is the right neighbour's left child. */
-    private static SplaySequence chain(int n) {
-        SplaySequence x = new SplaySequence();
-        for (int value = 0; value < n; value++) {
-            x.insert(value, value);
-        }
-        return x;
-    }
-
     private static void newObject() {
         SplaySequence x = new SplaySequence();
         CHECKS.isText(1, "a new object", Checks.picture(x), "size 0 clipped 0 root -1 height 0 potential 0 last 0/0"
                 + " steps 0 splays 0 sum 0 finger 0 finger 0 finger 0 finger 0");
-        SplaySequence other = chain(3);
+        SplaySequence other = Samples.chain(3);
         other.point(0, 1);
         CHECKS.is(1, "size() of an object beside a used one", x.size(), 0);
         CHECKS.is(1, "whereIs(0) of an object beside a used one", x.whereIs(0), 0);
@@ -69,7 +60,7 @@ public final class PromiseTest {
         CHECKS.is(2, "splays of inserts at the ends", x.splays(), 0);
         CHECKS.isText(2, "the row", Checks.plainRow(x), "3 5 7");
 
-        SplaySequence y = chain(3);
+        SplaySequence y = Samples.chain(3);
         CHECKS.is(2, "insert in the middle", y.insert(1, 9), 4);
         CHECKS.isText(2, "the tree behind an insert in the middle", Checks.shape(y), "((.0.)1(.2(.3.)))");
         CHECKS.isText(2, "the row behind an insert in the middle", Checks.plainRow(y), "0 9 1 2");
@@ -79,12 +70,12 @@ public final class PromiseTest {
     }
 
     private static void insertWrong() {
-        SplaySequence x = chain(3);
+        SplaySequence x = Samples.chain(3);
         CHECKS.failsPlace(2, "insert(-1, 0)", x, y -> y.insert(-1, 0));
         CHECKS.failsPlace(2, "insert(4, 0) of 3", x, y -> y.insert(4, 0));
         CHECKS.failsPlace(2, "insert(4, 1001) of 3", x, y -> y.insert(4, 1001));
         CHECKS.failsPlace(2, "insert at the greatest int", x, y -> y.insert(Integer.MAX_VALUE, 0));
-        x = chain(2);
+        x = Samples.chain(2);
         CHECKS.failsPlace(2, "insert at the least int", x, y -> y.insert(Integer.MIN_VALUE, 0));
         CHECKS.failsArgument(2, "insert(0, 1001)", x, y -> y.insert(0, 1001));
         CHECKS.failsArgument(2, "insert(2, -1001)", x, y -> y.insert(2, -1001));
@@ -95,12 +86,12 @@ public final class PromiseTest {
     }
 
     private static void insertFull() {
-        SplaySequence x = chain(59);
+        SplaySequence x = Samples.chain(59);
         CHECKS.is(2, "the 60th insert", x.insert(59, 59), 60);
         CHECKS.failsState(2, "the 61st insert", x, y -> y.insert(0, 1));
         CHECKS.failsArgument(2, "the 61st insert, of a value out of range", x, y -> y.insert(0, 1001));
         CHECKS.failsPlace(2, "the 61st insert, at no position", x, y -> y.insert(61, 1001));
-        x = chain(60);
+        x = Samples.chain(60);
         x.cut(0, 60);
         CHECKS.failsState(2, "insert beside a full clipboard", x, y -> y.insert(0, 1));
         x.paste(0);
@@ -112,13 +103,13 @@ public final class PromiseTest {
     }
 
     private static void remove() {
-        SplaySequence x = chain(1);
+        SplaySequence x = Samples.chain(1);
         CHECKS.is(3, "remove of the only value", x.remove(0), 0);
         CHECKS.is(3, "size behind it", x.size(), 0);
         CHECKS.is(3, "root behind it", x.root(), -1);
         CHECKS.is(3, "splays behind it", x.splays(), 1);
         CHECKS.failsPlace(3, "remove(0) of 0", x, y -> y.remove(0));
-        x = chain(4);
+        x = Samples.chain(4);
         CHECKS.failsPlace(3, "remove(-1)", x, y -> y.remove(-1));
         CHECKS.failsPlace(3, "remove(4) of 4", x, y -> y.remove(4));
         CHECKS.is(3, "remove(3)", x.remove(3), 3);
@@ -136,7 +127,7 @@ public final class PromiseTest {
     }
 
     private static void removeJoins() {
-        SplaySequence x = chain(4);
+        SplaySequence x = Samples.chain(4);
         // 3 is the root: 2 below it, 1 below that. A double step brings 1 up: ((0)1(2(3))).
         CHECKS.is(3, "remove(1)", x.remove(1), 1);
         CHECKS.isText(3, "the tree behind remove(1)", Checks.shape(x), "(.0(.1(.2.)))");
@@ -144,7 +135,7 @@ public final class PromiseTest {
         CHECKS.is(3, "steps of remove(1)", x.lastSteps(), 1);
         CHECKS.is(3, "rotations of remove(1)", x.lastRotations(), 2);
 
-        SplaySequence y = chain(5);
+        SplaySequence y = Samples.chain(5);
         // Two double steps bring 0 up, then 3 up again: its left subtree is then 0 with 1 and 2 on the right.
         y.get(0);
         y.get(3);
@@ -155,7 +146,7 @@ public final class PromiseTest {
     }
 
     private static void get() {
-        SplaySequence x = chain(3);
+        SplaySequence x = Samples.chain(3);
         CHECKS.failsPlace(4, "get(-1)", x, y -> y.get(-1));
         CHECKS.failsPlace(4, "get(3) of 3", x, y -> y.get(3));
         CHECKS.failsPlace(4, "get of the least int", x, y -> y.get(Integer.MIN_VALUE));
@@ -170,7 +161,7 @@ public final class PromiseTest {
     }
 
     private static void splayingSteps() {
-        SplaySequence x = chain(3);
+        SplaySequence x = Samples.chain(3);
         x.get(0);
         CHECKS.isText(4, "both left children", Checks.shape(x), "(.0(.1(.2.)))");
         CHECKS.isText(15, "as steps/rotations", x.lastSteps() + "/" + x.lastRotations(), "1/2");
@@ -178,7 +169,7 @@ public final class PromiseTest {
         CHECKS.isText(4, "both right children", Checks.shape(x), "(((.0.)1.)2.)");
         CHECKS.isText(15, "as steps/rotations", x.lastSteps() + "/" + x.lastRotations(), "1/2");
 
-        SplaySequence y = chain(2);
+        SplaySequence y = Samples.chain(2);
         y.insert(0, 9);
         // 0 is the root, 2 its right child, 1 the left child of that.
         y.get(1);
@@ -194,14 +185,14 @@ public final class PromiseTest {
         CHECKS.isText(4, "a right child of a left child", Checks.shape(z), "((.0.)1(.2.))");
         CHECKS.isText(15, "as steps/rotations", z.lastSteps() + "/" + z.lastRotations(), "1/2");
 
-        SplaySequence w = chain(4);
+        SplaySequence w = Samples.chain(4);
         w.get(0);
         CHECKS.isText(4, "a double step and a single one", Checks.shape(w), "(.0((.1(.2.))3.))");
         CHECKS.isText(15, "as steps/rotations", w.lastSteps() + "/" + w.lastRotations(), "2/3");
     }
 
     private static void set() {
-        SplaySequence x = chain(3);
+        SplaySequence x = Samples.chain(3);
         CHECKS.failsPlace(5, "set(-1, 0)", x, y -> y.set(-1, 0));
         CHECKS.failsPlace(5, "set(3, 0) of 3", x, y -> y.set(3, 0));
         CHECKS.failsPlace(5, "set(3, 1001) of 3", x, y -> y.set(3, 1001));
@@ -218,7 +209,7 @@ public final class PromiseTest {
     }
 
     private static void reverse() {
-        SplaySequence x = chain(4);
+        SplaySequence x = Samples.chain(4);
         // Ahead of 3: 3 is splayed, a root; 2 goes up in the rest. Ahead of 1: 1 goes up there, so that (1(2)) is
         // the range, and turned ((1)2) by values. Then 0 is joined with it, and that with 3: its last node is splayed.
         CHECKS.is(6, "reverse(1, 3)", x.reverse(1, 3), 2);
@@ -227,7 +218,7 @@ public final class PromiseTest {
         CHECKS.is(6, "splays", x.splays(), 4);
         CHECKS.isText(6, "steps/rotations", x.lastSteps() + "/" + x.lastRotations(), "2/2");
         CHECKS.isText(6, "the row by way of the tree", Checks.treeRow(x), "0 2 1 3");
-        SplaySequence z = chain(4);
+        SplaySequence z = Samples.chain(4);
         CHECKS.failsPlace(6, "reverse(-1, 2)", z, y -> y.reverse(-1, 2));
         CHECKS.failsPlace(6, "reverse(0, 5) of 4", z, y -> y.reverse(0, 5));
         CHECKS.failsPlace(6, "reverse(3, 2)", z, y -> y.reverse(3, 2));
@@ -236,7 +227,7 @@ public final class PromiseTest {
     }
 
     private static void reverseWholeAndEmpty() {
-        SplaySequence x = chain(5);
+        SplaySequence x = Samples.chain(5);
         CHECKS.is(6, "reverse of all", x.reverse(0, 5), 5);
         CHECKS.isText(6, "the tree", Checks.shape(x), "(.0(.1(.2(.3(.4.)))))");
         CHECKS.is(6, "splays of all", x.splays(), 0);
@@ -257,11 +248,11 @@ public final class PromiseTest {
     }
 
     private static void raise() {
-        SplaySequence x = chain(4);
+        SplaySequence x = Samples.chain(4);
         CHECKS.failsPlace(7, "raise(-1, 2, 0)", x, y -> y.raise(-1, 2, 0));
         CHECKS.failsPlace(7, "raise(0, 5, 0) of 4", x, y -> y.raise(0, 5, 0));
         CHECKS.failsPlace(7, "raise(2, 1, 1001)", x, y -> y.raise(2, 1, 1001));
-        x = chain(4);
+        x = Samples.chain(4);
         CHECKS.failsArgument(7, "raise(0, 4, 1001)", x, y -> y.raise(0, 4, 1001));
         CHECKS.failsArgument(7, "raise(0, 0, -1001)", x, y -> y.raise(0, 0, -1001));
         CHECKS.is(7, "raise(1, 3, 1000)", x.raise(1, 3, 1000), 2);
@@ -273,7 +264,7 @@ public final class PromiseTest {
         int splays = x.splays();
         CHECKS.is(7, "raise(2, 2, 5)", x.raise(2, 2, 5), 0);
         CHECKS.is(7, "splays of an empty range", x.splays(), splays);
-        x = chain(1);
+        x = Samples.chain(1);
         for (int time = 0; time < 100; time++) {
             x.raise(0, 1, 1000);
         }
@@ -282,7 +273,7 @@ public final class PromiseTest {
     }
 
     private static void sum() {
-        SplaySequence x = chain(4);
+        SplaySequence x = Samples.chain(4);
         CHECKS.failsPlace(8, "sum(-1, 2)", x, y -> y.sum(-1, 2));
         CHECKS.failsPlace(8, "sum(0, 5) of 4", x, y -> y.sum(0, 5));
         CHECKS.failsPlace(8, "sum(2, 1)", x, y -> y.sum(2, 1));
@@ -298,11 +289,11 @@ public final class PromiseTest {
     }
 
     private static void least() {
-        SplaySequence x = chain(4);
+        SplaySequence x = Samples.chain(4);
         CHECKS.failsPlace(9, "least(-1, 2)", x, y -> y.least(-1, 2));
         CHECKS.failsPlace(9, "least(0, 5) of 4", x, y -> y.least(0, 5));
         CHECKS.failsPlace(9, "least(5, 5) of 4", x, y -> y.least(5, 5));
-        x = chain(4);
+        x = Samples.chain(4);
         CHECKS.failsArgument(9, "least(0, 0)", x, y -> y.least(0, 0));
         CHECKS.failsArgument(9, "least(4, 4) of 4", x, y -> y.least(4, 4));
         CHECKS.is(9, "least(1, 3)", x.least(1, 3), 1);
@@ -319,20 +310,20 @@ public final class PromiseTest {
 
     /** A range that begins at 0 or ends at the size takes half of the splaying. */
     private static void rangeSplays() {
-        SplaySequence x = chain(4);
+        SplaySequence x = Samples.chain(4);
         x.sum(0, 2);
         // 2 goes up from below 3, (0 1) is cut off, and its last node, a root, is splayed for the join.
         CHECKS.isText(8, "the tree behind sum(0, 2)", Checks.shape(x), "((.0.)1(.2(.3.)))");
         CHECKS.is(8, "splays of sum(0, 2)", x.splays(), 2);
         CHECKS.is(8, "steps of sum(0, 2)", x.lastSteps(), 1);
-        SplaySequence y = chain(4);
+        SplaySequence y = Samples.chain(4);
         y.sum(2, 4);
         CHECKS.isText(8, "the tree behind sum(2, 4)", Checks.shape(y), "((.0.)1(.2(.3.)))");
         CHECKS.is(8, "splays of sum(2, 4)", y.splays(), 2);
     }
 
     private static void cut() {
-        SplaySequence x = chain(5);
+        SplaySequence x = Samples.chain(5);
         CHECKS.is(10, "cut(1, 3)", x.cut(1, 3), 2);
         CHECKS.is(10, "size", x.size(), 3);
         CHECKS.is(10, "clipped", x.clipped(), 2);
@@ -343,17 +334,17 @@ public final class PromiseTest {
         CHECKS.failsState(10, "cut(0, 0) with a clipboard", x, y -> y.cut(0, 0));
         CHECKS.failsPlace(10, "cut(2, 4) of 3 with a clipboard", x, y -> y.cut(2, 4));
         CHECKS.isText(10, "the row by way of the tree", Checks.treeRow(x), "0 3 4");
-        SplaySequence w = chain(5);
+        SplaySequence w = Samples.chain(5);
         w.cut(4, 5);
         CHECKS.failsState(10, "cut(0, 1) with one value in the clipboard", w, y -> y.cut(0, 1));
-        SplaySequence z = chain(5);
+        SplaySequence z = Samples.chain(5);
         CHECKS.failsPlace(10, "cut(-1, 1)", z, y -> y.cut(-1, 1));
         CHECKS.failsPlace(10, "cut(2, 1)", z, y -> y.cut(2, 1));
         CHECKS.failsPlace(10, "cut(0, 6) of 5", z, y -> y.cut(0, 6));
     }
 
     private static void cutEdges() {
-        SplaySequence x = chain(5);
+        SplaySequence x = Samples.chain(5);
         x.get(0);
         CHECKS.is(10, "cut of an empty range", x.cut(3, 3), 0);
         CHECKS.is(10, "steps of it", x.lastSteps(), 0);
@@ -371,7 +362,7 @@ public final class PromiseTest {
     }
 
     private static void paste() {
-        SplaySequence x = chain(5);
+        SplaySequence x = Samples.chain(5);
         x.cut(1, 3);
         CHECKS.failsPlace(11, "paste(-1)", x, y -> y.paste(-1));
         CHECKS.failsPlace(11, "paste(4) of 3", x, y -> y.paste(4));
@@ -387,7 +378,7 @@ public final class PromiseTest {
     }
 
     private static void pasteEdges() {
-        SplaySequence x = chain(4);
+        SplaySequence x = Samples.chain(4);
         x.get(0);
         CHECKS.is(11, "paste of an empty clipboard", x.paste(2), 0);
         CHECKS.is(11, "splays of it", x.splays(), 1);
@@ -408,7 +399,7 @@ public final class PromiseTest {
     }
 
     private static void point() {
-        SplaySequence x = chain(3);
+        SplaySequence x = Samples.chain(3);
         CHECKS.failsPlace(12, "point(-1, 0)", x, y -> y.point(-1, 0));
         CHECKS.failsPlace(12, "point(4, 0)", x, y -> y.point(4, 0));
         CHECKS.failsPlace(12, "point(0, -1)", x, y -> y.point(0, -1));
@@ -425,7 +416,7 @@ public final class PromiseTest {
     }
 
     private static void follow() {
-        SplaySequence x = chain(4);
+        SplaySequence x = Samples.chain(4);
         CHECKS.failsPlace(13, "follow(-1)", x, y -> y.follow(-1));
         CHECKS.failsPlace(13, "follow(4)", x, y -> y.follow(4));
         x.point(2, 1);
@@ -446,7 +437,7 @@ public final class PromiseTest {
     }
 
     private static void fingersGoAlong() {
-        SplaySequence x = chain(5);
+        SplaySequence x = Samples.chain(5);
         x.point(0, 1);
         x.point(1, 1);
         x.point(2, 4);
@@ -468,7 +459,7 @@ public final class PromiseTest {
     }
 
     private static void move() {
-        SplaySequence x = chain(5);
+        SplaySequence x = Samples.chain(5);
         x.point(0, 2);
         int splays = x.splays();
         CHECKS.is(14, "move(0, 2)", x.move(0, 2), 4);
@@ -483,7 +474,7 @@ public final class PromiseTest {
         CHECKS.is(14, "splays of it", x.splays(), splays + 2);
         CHECKS.is(14, "the root then", x.root(), 0);
 
-        SplaySequence z = chain(3);
+        SplaySequence z = Samples.chain(3);
         z.point(1, 0);
         z.get(2);
         // First 0 goes up by a double step, then 2 by another one.
@@ -494,14 +485,14 @@ public final class PromiseTest {
     }
 
     private static void moveWrong() {
-        SplaySequence x = chain(3);
+        SplaySequence x = Samples.chain(3);
         x.point(0, 1);
         x.get(2);
         CHECKS.failsPlace(14, "move(-1, 0)", x, y -> y.move(-1, 0));
         CHECKS.failsPlace(14, "move(4, 0)", x, y -> y.move(4, 0));
         CHECKS.failsState(14, "move(0, 2) from 1 of 3", x, y -> y.move(0, 2));
         CHECKS.failsState(14, "move(0, -2) from 1", x, y -> y.move(0, -2));
-        x = chain(3);
+        x = Samples.chain(3);
         x.point(0, 1);
         x.get(2);
         CHECKS.failsState(14, "move(0, the greatest int)", x, y -> y.move(0, Integer.MAX_VALUE));
@@ -514,7 +505,7 @@ public final class PromiseTest {
     }
 
     private static void counts() {
-        SplaySequence x = chain(4);
+        SplaySequence x = Samples.chain(4);
         CHECKS.isText(15, "counts of a chain", counted(x), "0/0 0 0");
         x.get(0);
         CHECKS.isText(16, "counts behind get(0)", counted(x), "2/3 2 1");
@@ -546,7 +537,7 @@ public final class PromiseTest {
             x -> x.paste(0), x -> x.point(0, x.root()), x -> x.follow(1), x -> x.move(0, 0),
         };
         for (int number = 0; number < calls.length; number++) {
-            SplaySequence x = chain(3);
+            SplaySequence x = Samples.chain(3);
             x.point(0, 0);
             CHECKS.isText(15, "counts ahead of call " + number, counted(x), "1/2 1 1");
             calls[number].answer(x);
@@ -563,12 +554,12 @@ public final class PromiseTest {
     private static void potential() {
         int[] ofChain = {0, 0, 1, 2, 4, 6, 8, 10, 13};
         for (int n = 0; n < ofChain.length; n++) {
-            CHECKS.is(19, "potential of a chain of " + n, chain(n).potential(), ofChain[n]);
+            CHECKS.is(19, "potential of a chain of " + n, Samples.chain(n).potential(), ofChain[n]);
         }
-        SplaySequence x = chain(3);
+        SplaySequence x = Samples.chain(3);
         x.get(1);
         CHECKS.is(19, "potential of ((.0.)1(.2.))", x.potential(), 1);
-        x = chain(8);
+        x = Samples.chain(8);
         x.cut(0, 8);
         CHECKS.is(19, "potential of a chain in the clipboard", x.potential(), 13);
         x.insert(0, 1);
@@ -577,7 +568,7 @@ public final class PromiseTest {
     }
 
     private static void sizes() {
-        SplaySequence x = chain(6);
+        SplaySequence x = Samples.chain(6);
         CHECKS.is(20, "size()", x.size(), 6);
         CHECKS.is(21, "clipped()", x.clipped(), 0);
         x.cut(1, 5);
@@ -594,7 +585,7 @@ public final class PromiseTest {
     private static void root() {
         SplaySequence x = new SplaySequence();
         CHECKS.is(22, "root() of the empty sequence", x.root(), -1);
-        x = chain(5);
+        x = Samples.chain(5);
         CHECKS.is(22, "root() of a chain", x.root(), 4);
         for (int at = 0; at < 5; at++) {
             x.get(at);
@@ -607,9 +598,9 @@ public final class PromiseTest {
 
     private static void height() {
         CHECKS.is(23, "height() of the empty sequence", new SplaySequence().height(), 0);
-        CHECKS.is(23, "height() of 1", chain(1).height(), 1);
-        CHECKS.is(23, "height() of a chain of 60", chain(60).height(), 60);
-        SplaySequence x = chain(3);
+        CHECKS.is(23, "height() of 1", Samples.chain(1).height(), 1);
+        CHECKS.is(23, "height() of a chain of 60", Samples.chain(60).height(), 60);
+        SplaySequence x = Samples.chain(3);
         x.get(1);
         CHECKS.is(23, "height() of ((.0.)1(.2.))", x.height(), 2);
         x.insert(0, 5);
@@ -619,7 +610,7 @@ public final class PromiseTest {
     }
 
     private static void depthSubtreeChild() {
-        SplaySequence x = chain(4);
+        SplaySequence x = Samples.chain(4);
         x.get(0);
         int[] depths = {0, 2, 3, 1};
         int[] subtrees = {4, 2, 1, 3};
@@ -636,7 +627,7 @@ public final class PromiseTest {
         CHECKS.failsPlace(24, "depth(4) of 4", x, y -> y.depth(4));
         CHECKS.failsPlace(25, "subtree(-1)", x, y -> y.subtree(-1));
         CHECKS.failsPlace(25, "subtree(4) of 4", x, y -> y.subtree(4));
-        x = chain(4);
+        x = Samples.chain(4);
         CHECKS.failsPlace(26, "child(-1, true)", x, y -> y.child(-1, true));
         CHECKS.failsPlace(26, "child(4, false) of 4", x, y -> y.child(4, false));
         CHECKS.failsPlace(24, "depth of the least int", x, y -> y.depth(Integer.MIN_VALUE));
@@ -644,7 +635,7 @@ public final class PromiseTest {
     }
 
     private static void whereIs() {
-        SplaySequence x = chain(4);
+        SplaySequence x = Samples.chain(4);
         CHECKS.failsPlace(27, "whereIs(-1)", x, y -> y.whereIs(-1));
         CHECKS.failsPlace(27, "whereIs(4)", x, y -> y.whereIs(4));
         CHECKS.is(27, "whereIs(3) at first", x.whereIs(3), 0);
@@ -663,7 +654,7 @@ public final class PromiseTest {
     }
 
     private static void plain() {
-        SplaySequence x = chain(4);
+        SplaySequence x = Samples.chain(4);
         CHECKS.failsPlace(28, "plain(-1)", x, y -> y.plain(-1));
         CHECKS.failsPlace(28, "plain(4) of 4", x, y -> y.plain(4));
         x.cut(1, 3);
@@ -682,7 +673,7 @@ public final class PromiseTest {
     }
 
     private static void plainOfFullRow() {
-        SplaySequence x = chain(60);
+        SplaySequence x = Samples.chain(60);
         x.cut(20, 40);
         x.paste(40);
         CHECKS.is(28, "the last of 60 behind paste", x.plain(59), 39);
@@ -701,7 +692,7 @@ public final class PromiseTest {
     }
 
     private static void plainSum() {
-        SplaySequence x = chain(5);
+        SplaySequence x = Samples.chain(5);
         int splays = x.splays();
         CHECKS.is(29, "plainSum(0, 5)", x.plainSum(0, 5), 10);
         CHECKS.is(29, "plainSum(1, 3)", x.plainSum(1, 3), 3);
@@ -713,7 +704,7 @@ public final class PromiseTest {
         CHECKS.failsPlace(29, "plainSum(-1, 2)", x, y -> y.plainSum(-1, 2));
         CHECKS.failsPlace(29, "plainSum(3, 2)", x, y -> y.plainSum(3, 2));
         CHECKS.failsPlace(29, "plainSum(0, 6) of 5", x, y -> y.plainSum(0, 6));
-        x = chain(5);
+        x = Samples.chain(5);
         CHECKS.failsPlace(29, "plainSum(6, 6) of 5", x, y -> y.plainSum(6, 6));
         x.cut(3, 5);
         CHECKS.failsPlace(29, "plainSum(0, 4) of 3", x, y -> y.plainSum(0, 4));
