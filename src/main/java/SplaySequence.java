@@ -164,12 +164,12 @@ public final class SplaySequence {
         if (node == null || !sequence.holds(node)) {
             throw new IllegalStateException("the finger is not on a node of the sequence");
         }
-        // In int a great "by" would wrap round to a position that exists.
-        long target = (long) node.position() + by;
-        if (target < 0 || target >= sequence.count()) {
+        int here = node.position();
+        // Not by way of the sum: this holds for any "by" without a wrap-around.
+        if (by < -here || by >= sequence.count() - here) {
             throw new IllegalStateException("there is no such new position");
         }
-        int at = (int) target;
+        int at = here + by;
         Node goal = nodeAt(at);
         splayer.beginCall();
         splayer.splay(sequence, node);

@@ -5,8 +5,27 @@ final class Checks {
         int answer(SplaySequence x);
     }
 
+    /** Far more than any test takes; without it a call that does not end would tell nothing. */
+    private static final long MOST_MILLISECONDS = 300_000;
+
     private int made = 0;
     private int wrong = 0;
+
+    Checks() {
+        Thread guard = new Thread(Checks::endLate);
+        guard.setDaemon(true);
+        guard.start();
+    }
+
+    private static void endLate() {
+        try {
+            Thread.sleep(MOST_MILLISECONDS);
+        } catch (InterruptedException e) {
+            return;
+        }
+        System.out.println("a call does not end");
+        Runtime.getRuntime().halt(1);
+    }
 
     void is(int promise, String what, long got, long due) {
         isText(promise, what, Long.toString(got), Long.toString(due));
@@ -76,14 +95,22 @@ final class Checks {
 
     /** The tree of the sequence: each subtree as (left position right), an empty one as a dot. */
     static String shape(SplaySequence x) {
-        return shapeBelow(x, x.root());
+        StringBuilder text = new StringBuilder();
+        putShape(x, x.root(), text);
+        return text.toString();
     }
 
-    private static String shapeBelow(SplaySequence x, int at) {
-        if (at < 0) {
-            return ".";
+    /** A tree of 60 nodes takes fewer than 300 characters: what goes beyond is no tree. */
+    private static void putShape(SplaySequence x, int at, StringBuilder text) {
+        if (at < 0 || text.length() > 300) {
+            text.append('.');
+            return;
         }
-        return "(" + shapeBelow(x, x.child(at, false)) + at + shapeBelow(x, x.child(at, true)) + ")";
+        text.append('(');
+        putShape(x, x.child(at, false), text);
+        text.append(at);
+        putShape(x, x.child(at, true), text);
+        text.append(')');
     }
 
     static String plainRow(SplaySequence x) {

@@ -8,11 +8,10 @@ import java.util.Set;
 import java.util.TreeMap;
 import java.util.TreeSet;
 import java.util.function.Supplier;
-import java.util.regex.Pattern;
 
 /**
  * Runs tests of boundary cases. Each is known by the sentence of the document that it holds the class to, so that a
- * sentence of the document that names a boundary case and has no test of its own is told as well.
+ * line of a promise that has no test of its own is told as well.
  */
 final class Edges {
     /** One test. */
@@ -24,7 +23,6 @@ final class Edges {
     static final int TERMS = 0;
 
     private static final Path DOCUMENT = Path.of("..", "shared", "DOC.md");
-    private static final Pattern BOUNDARY = Pattern.compile("^- |^Throws |[0-9]|empty|root");
 
     private final Map<Integer, List<String>> document = read();
     private final Map<Integer, Set<String>> quoted = new TreeMap<>();
@@ -100,12 +98,12 @@ final class Edges {
         return text.append(' ').append(Checks.treeRow(x)).append(" counts ").append(counted(x)).toString();
     }
 
-    /** Tells each boundary sentence of the promises that no test was known by, and ends as Checks does. */
+    /** Tells each line of the promises that no test was known by, and ends as Checks does. */
     void end(String name) {
         for (int number : document.keySet()) {
             for (String line : document.get(number)) {
                 boolean tested = quoted.getOrDefault(number, Set.of()).contains(bare(line));
-                if (number != TERMS && BOUNDARY.matcher(line).find()) {
+                if (number != TERMS) {
                     checks.isText(number, "[" + bare(line) + "]", tested ? "a test" : "no test", "a test");
                 }
             }

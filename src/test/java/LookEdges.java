@@ -39,6 +39,7 @@ final class LookEdges {
         e.edge(25, AT, LookEdges::subtreeAt);
         e.edge(25, "Returns the size, that node included.", LookEdges::subtreeOfLeaf);
         e.edge(25, NO_POSITION, f -> WorkEdges.noPosition(f, "subtree", (x, at) -> x.subtree(at)));
+        e.edge(26, "Returns the position of a child of the node at a position.", LookEdges::child);
         e.edge(26, AT, LookEdges::childAt);
         e.edge(26, "right: whether the right one is meant", LookEdges::childRight);
         e.edge(26, "Returns the position of the child; -1 if that subtree is empty.", LookEdges::childOfEmpty);
@@ -54,7 +55,9 @@ final class LookEdges {
         e.edge(28, "Returns the value at a position of the plain row, which is treated like the sequence.",
                 LookEdges::plain);
         e.edge(28, AT, LookEdges::plainAt);
+        e.edge(28, "Returns the value.", LookEdges::plainReturns);
         e.edge(28, NO_POSITION, f -> WorkEdges.noPosition(f, "plain", (x, at) -> x.plain(at)));
+        e.edge(29, "Returns the sum of a range of the plain row.", LookEdges::plainSum);
         e.edge(29, "from: 0 to to", LookEdges::plainSumFrom);
         e.edge(29, "to: 0 to size()", LookEdges::plainSumTo);
         e.edge(29, "Returns the sum; 0 of an empty range.", LookEdges::plainSumOfEmpty);
@@ -284,6 +287,18 @@ final class LookEdges {
         e.is("subtree(2), a node without children", x.subtree(2), 1);
     }
 
+    private static void child(Edges e) {
+        SplaySequence x = Samples.chain(5);
+        x.get(2);
+        e.shape("get(2) of a chain", x, "(((.0.)1.)2(.3(.4.)))");
+        int[] left = {-1, 0, 1, -1, -1};
+        int[] right = {-1, -1, 3, 4, -1};
+        for (int at = 0; at < 5; at++) {
+            e.is("child(" + at + ", false)", x.child(at, false), left[at]);
+            e.is("child(" + at + ", true)", x.child(at, true), right[at]);
+        }
+    }
+
     private static void childAt(Edges e) {
         SplaySequence x = Samples.chain(60);
         for (int at = 0; at < 60; at++) {
@@ -375,6 +390,27 @@ final class LookEdges {
         Checks.outcome(x, y -> y.set(0, 1001));
         Checks.outcome(x, y -> y.cut(0, 6));
         e.isText("the row behind calls that threw", Checks.plainRow(x), "1001 9 -5 1003 2");
+        plainOfAll60(e);
+    }
+
+    private static void plainOfAll60(Edges e) {
+        SplaySequence x = Samples.full(0);
+        x.remove(0);
+        x.insert(59, 777);
+        e.is("the last of 60 behind remove and insert", x.plain(59), 777);
+        x.cut(0, 60);
+        x.paste(0);
+        e.is("the sum of 60 behind cut and paste", x.plainSum(0, 60), 2547);
+        x.cut(0, 1);
+        x.remove(0);
+        x.paste(58);
+        x.insert(0, -777);
+        e.is("the first of 60 behind cut, remove, paste and insert", x.plain(0), -777);
+        e.is("the last of them", x.plain(59), 1);
+        x.cut(20, 40);
+        e.is("the first behind the cut", x.plain(20), x.get(20));
+        x.paste(40);
+        e.isText("all 60 behind another paste", Checks.plainRow(x), Checks.treeRow(x));
     }
 
     private static void plainAt(Edges e) {
@@ -385,6 +421,29 @@ final class LookEdges {
         x.reverse(0, 60);
         e.is("plain(59) of 60 turned round", x.plain(59), 0);
         e.is("plain(0) of one", Samples.chain(1).plain(0), 0);
+    }
+
+    private static void plainReturns(Edges e) {
+        SplaySequence x = Samples.chain(3);
+        x.set(0, -1000);
+        x.set(1, 1000);
+        x.raise(0, 1, -1000);
+        x.raise(1, 2, 1000);
+        e.is("plain of a value below -1000", x.plain(0), -2000);
+        e.is("plain of a value above 1000", x.plain(1), 2000);
+        e.is("plain of the value beside them", x.plain(2), 2);
+    }
+
+    private static void plainSum(Edges e) {
+        SplaySequence x = Samples.chain(5);
+        x.set(2, -1000);
+        x.raise(2, 4, -1000);
+        String shape = Checks.shape(x);
+        String counts = Edges.counted(x);
+        e.is("plainSum(1, 3)", x.plainSum(1, 3), -1999);
+        e.is("plainSum(3, 5)", x.plainSum(3, 5), -993);
+        e.shape("plainSum", x, shape);
+        e.counts("plainSum", x, counts);
     }
 
     private static void plainSumFrom(Edges e) {

@@ -36,11 +36,13 @@ final class RangeEdges {
         e.edge(7, NO_RANGE, f -> noRange(f, "raise", (x, from, to) -> x.raise(from, to, 1)));
         e.edge(7, "Throws IllegalArgumentException if amount is out of range", RangeEdges::raiseNoAmount);
 
+        e.edge(8, "Works on a range, as the calls above, and returns its sum.", RangeEdges::sum);
         e.edge(8, FROM, f -> fromZeroToTo(f, (x, from, to) -> x.sum(from, to)));
         e.edge(8, TO, RangeEdges::sumTo);
         e.edge(8, "Returns the sum; 0 of an empty range.", RangeEdges::sumOfEmpty);
         e.edge(8, NO_RANGE, f -> noRange(f, "sum", (x, from, to) -> x.sum(from, to)));
 
+        e.edge(9, "Works on a range, as the calls above, and returns its least value.", RangeEdges::least);
         e.edge(9, FROM, RangeEdges::leastFrom);
         e.edge(9, TO, RangeEdges::leastTo);
         e.edge(9, "Returns the least value.", RangeEdges::leastReturns);
@@ -191,6 +193,33 @@ final class RangeEdges {
             e.refusesArgument("raise of an empty range by " + amount, Samples::rich, x -> x.raise(6, 6, amount));
             e.refusesArgument("raise of nothing by " + amount, SplaySequence::new, x -> x.raise(0, 0, amount));
         }
+    }
+
+    private static void sum(Edges e) {
+        SplaySequence x = Samples.chain(4);
+        e.is("sum(1, 3)", x.sum(1, 3), 3);
+        e.shape("sum(1, 3)", x, "(((.0.)1.)2(.3.))");
+        e.counts("sum(1, 3)", x, "2/3 2 4");
+        e.is("sum(0, 2)", x.sum(0, 2), 1);
+        e.shape("sum(0, 2)", x, "((.0.)1(.2(.3.)))");
+        e.counts("sum(0, 2)", x, "0/0 2 6");
+        SplaySequence y = Samples.chain(4);
+        e.is("sum of all", y.sum(0, 4), 6);
+        e.shape("sum of all", y, "((((.0.)1.)2.)3.)");
+        e.counts("sum of all", y, "0/0 0 0");
+    }
+
+    private static void least(Edges e) {
+        SplaySequence x = Samples.chain(4);
+        e.is("least(1, 3)", x.least(1, 3), 1);
+        e.shape("least(1, 3)", x, "(((.0.)1.)2(.3.))");
+        e.counts("least(1, 3)", x, "2/3 2 4");
+        SplaySequence y = Samples.chain(4);
+        e.is("least of all", y.least(0, 4), 0);
+        e.counts("least of all", y, "0/0 0 0");
+        e.is("least at the end", y.least(3, 4), 3);
+        e.shape("least at the end", y, "(((.0.)1.)2(.3.))");
+        e.counts("least at the end", y, "0/0 0 2");
     }
 
     private static void sumTo(Edges e) {

@@ -31,6 +31,7 @@ final class WorkEdges {
 
         e.edge(4, "Returns a value; its node is splayed.", WorkEdges::get);
         e.edge(4, "at: 0 to size() less 1", WorkEdges::getAt);
+        e.edge(4, "Returns the value.", WorkEdges::getReturns);
         e.edge(4, "Throws IndexOutOfBoundsException if there is no such position",
                 f -> noPosition(f, "get", (x, at) -> x.get(at)));
 
@@ -194,11 +195,23 @@ final class WorkEdges {
         x.get(0);
         e.shape("get of the first", x, "(.0(.1(.2.)))");
         e.counts("get of the first", x, "1/2 1 1");
-        x.raise(0, 3, 1000);
-        x.raise(0, 3, 1000);
-        e.is("get of a value raised beyond 1000", x.get(2), 2002);
+        x.get(2);
         e.shape("get of the last", x, "(((.0.)1.)2.)");
         e.counts("get of the last", x, "1/2 2 2");
+    }
+
+    private static void getReturns(Edges e) {
+        SplaySequence x = Samples.chain(3);
+        x.set(0, -1000);
+        x.set(1, 1000);
+        x.raise(0, 1, -1000);
+        x.raise(1, 2, 1000);
+        e.is("get of a value below -1000", x.get(0), -2000);
+        e.is("get of a value above 1000", x.get(1), 2000);
+        e.is("get of the value beside them", x.get(2), 2);
+        x.reverse(0, 3);
+        e.is("get of the first turned round", x.get(0), 2);
+        e.is("get of the last turned round", x.get(2), -2000);
     }
 
     private static void getAt(Edges e) {
